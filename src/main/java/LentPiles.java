@@ -894,10 +894,12 @@ public final class LentPiles {
      * have one order of paying, and all that matters is how many of them each man has paid.
      */
     private static final class Payings {
-        /** Places are how many each man has paid, 0 to 5, and one bit is kept for each place. */
+        /** A place is how many each man has paid, 0 to 5; one bit is kept for each place. */
         private static final int PLACES = 6 * 6 * 6 * 6 * 6 * 6;
         private static final int WORD = 64;
+        private static final int WORDS_MOST = PLACES / WORD;
 
+        private final int[] firstPurse;
         private final int[] purse;
         private final int[] height;
         /** Debts in the order of paying. */
@@ -906,12 +908,12 @@ public final class LentPiles {
         private final int[] paid;
         private final int[] limit;
         private final int[] weight;
-        /** How many payings the men from one on can do in all. */
-        private final int[] room;
-        private final long[] reached;
-        private int goalMan;
+        /** The places that some number of payings leads to, as bits. */
+        private final long[] layer;
+        private int words;
 
         Payings() {
+            firstPurse = new int[MEN];
             purse = new int[MEN];
             height = new int[MEN];
             lender = new int[DEBTS_MOST];
@@ -919,14 +921,14 @@ public final class LentPiles {
             paid = new int[MEN];
             limit = new int[MEN];
             weight = new int[MEN];
-            room = new int[MEN + 1];
-            reached = new long[PLACES / WORD];
-            goalMan = 0;
+            layer = new long[WORDS_MOST];
+            words = 0;
         }
 
         void load(Valley valley) {
             for (int man = 0; man < MEN; man++) {
-                purse[man] = valley.purseOf(man);
+                firstPurse[man] = valley.purseOf(man);
+                purse[man] = firstPurse[man];
                 height[man] = valley.debtsOf(man);
                 paid[man] = 0;
                 for (int k = 0; k < PILE_MOST && k < height[man]; k++) {
@@ -948,27 +950,17 @@ public final class LentPiles {
             return !isPaidUp(man) && purse[man] >= pence[man * PILE_MOST + paid[man]];
         }
 
-        /** Pays what is next, whether there is money for it or not. */
+        /** Pays what is next; whether there is money for it has been asked before. */
         private void pay(int man) {
-            if (!isPaidUp(man)) {
-                moveMoney(man, man * PILE_MOST + paid[man], 1);
-                paid[man]++;
-            }
-        }
-
-        private void takeBack(int man) {
-            if (isWithin(paid[man], 1, PILE_MOST)) {
-                paid[man]--;
-                moveMoney(man, man * PILE_MOST + paid[man], -1);
-            }
-        }
-
-        private void moveMoney(int man, int row, int times) {
-            if (row < 0 || row >= DEBTS_MOST || !isMan(lender[row])) {
+            if (isPaidUp(man)) {
                 return;
             }
-            purse[man] -= pence[row] * times;
-            purse[lender[row]] += pence[row] * times;
+            int row = man * PILE_MOST + paid[man];
+            paid[man]++;
+            purse[man] -= pence[row];
+            if (isMan(lender[row])) {
+                purse[lender[row]] += pence[row];
+            }
         }
 
         /** Nobody's paying takes money from another one, so any order ends at the same place. */
@@ -1017,72 +1009,81 @@ public final class LentPiles {
             if (!isMan(man) || paid[man] < own) {
                 return NONE;
             }
-            goalMan = man;
-            setLimits(own);
-            for (int payings = 0; payings <= room[0]; payings++) {
-                if (settle(0, payings, 0)) {
+            setLimits(man, own);
+            Arrays.fill(layer, 0L);
+            mark(0);
+            for (int payings = 1; payings <= DEBTS_MOST; payings++) {
+                if (spread(man)) {
                     return payings;
                 }
             }
             return NONE;
         }
 
-        /** Goes back to the start; nobody needs to pay more than he ever can. */
-        private void setLimits(int own) {
+        /** Nobody needs to pay more than he ever can, and the man of the goal not more than told. */
+        private void setLimits(int goalMan, int own) {
             int places = 1;
             for (int man = 0; man < MEN; man++) {
                 limit[man] = man == goalMan ? own : paid[man];
-                for (int k = 0; k < PILE_MOST && paid[man] > 0; k++) {
-                    takeBack(man);
-                }
                 weight[man] = places;
                 places *= limit[man] + 1;
             }
-            room[MEN] = 0;
-            for (int man = MEN - 1; man >= 0; man--) {
-                room[man] = room[man + 1] + limit[man];
-            }
-            Arrays.fill(reached, 0L);
+            words = Math.min((places + WORD - 1) / WORD, WORDS_MOST);
         }
 
-        /** Shares payings among the men from one on, in all ways, till the goal is met. */
-        private boolean settle(int man, int payings, int place) {
-            if (man < 0 || man >= MEN) {
-                return arrive(place) && isMan(goalMan) && paid[goalMan] == limit[goalMan];
+        /**
+         * One paying more from each place of the layer: whether the goal is met. A paying leads to
+         * a higher place, so words are taken from the highest down and what is new is not met again.
+         */
+        private boolean spread(int goalMan) {
+            for (int word = words - 1; word >= 0; word--) {
+                long bits = layer[word];
+                layer[word] = 0L;
+                for (int n = 0; n < WORD && bits != 0L; n++) {
+                    int bit = Long.numberOfTrailingZeros(bits);
+                    bits &= bits - 1L;
+                    if (leave(word * WORD + bit, goalMan)) {
+                        return true;
+                    }
+                }
             }
-            return payings <= room[man] && share(man, payings, place);
+            return false;
         }
 
-        private boolean share(int man, int payings, int place) {
-            int most = Math.min(payings, limit[man]);
-            boolean met = settle(man + 1, payings, place);
-            int own = 0;
-            while (own < most && !met) {
-                own++;
-                pay(man);
-                met = settle(man + 1, payings - own, place + own * weight[man]);
+        private boolean leave(int place, int goalMan) {
+            standAt(place);
+            for (int man = 0; man < MEN; man++) {
+                if (paid[man] < limit[man] && canPay(man)) {
+                    if (man == goalMan && paid[man] + 1 == limit[man]) {
+                        return true;
+                    }
+                    mark(place + weight[man]);
+                }
             }
-            for (int k = 0; k < own; k++) {
-                takeBack(man);
-            }
-            return met;
+            return false;
         }
 
-        /** A place is reached if one of the last payings to it could be done: by its payer. */
-        private boolean arrive(int place) {
-            boolean can = place == 0;
-            for (int man = 0; man < MEN && !can; man++) {
-                can = paid[man] > 0 && purse[man] >= 0 && isReached(place - weight[man]);
+        /** The money and payings that a place stands for. */
+        private void standAt(int place) {
+            System.arraycopy(firstPurse, 0, purse, 0, MEN);
+            Arrays.fill(paid, 0);
+            int left = place;
+            for (int man = 0; man < MEN; man++) {
+                int size = limit[man] + 1;
+                if (size > 0) {
+                    int own = left % size;
+                    left /= size;
+                    for (int k = 0; k < own; k++) {
+                        pay(man);
+                    }
+                }
             }
-            if (can && place >= 0 && place < PLACES) {
-                reached[place / WORD] |= 1L << place % WORD;
-            }
-            return can;
         }
 
-        private boolean isReached(int place) {
-            return place >= 0 && place < PLACES
-                    && (reached[place / WORD] & 1L << place % WORD) != 0L;
+        private void mark(int place) {
+            if (place >= 0 && place < PLACES) {
+                layer[place / WORD] |= 1L << place % WORD;
+            }
         }
     }
 }
