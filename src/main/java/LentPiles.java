@@ -115,7 +115,7 @@ public final class LentPiles {
         if (pad.asks > 0) {
             return STATE;
         }
-        int part = tryPad();
+        int part = pad.perform(now, trial);
         if (part == NONE) {
             return NONE;
         }
@@ -129,7 +129,7 @@ public final class LentPiles {
         if (pad.asks > 0) {
             return STATE;
         }
-        if (tryPad() != NONE) {
+        if (pad.perform(now, trial) != NONE) {
             return NO;
         }
         now.copyFrom(trial);
@@ -187,7 +187,7 @@ public final class LentPiles {
         int ways = 0;
         for (int way = 0; way < guesses; way++) {
             pad.writeMen(way);
-            if (guessHolds()) {
+            if (!pad.lendsToHimself() && pad.perform(now, trial) == NONE && trial.sightsHold()) {
                 first = first == NONE ? way : first;
                 ways++;
             }
@@ -356,16 +356,6 @@ public final class LentPiles {
         return n == 0 ? firstImage : secondImage;
     }
 
-    /** Does the read pad in the trial valley: the first part that can not be, or NONE. */
-    private int tryPad() {
-        trial.copyFrom(now);
-        return pad.perform(trial);
-    }
-
-    private boolean guessHolds() {
-        return !pad.lendsToHimself() && tryPad() == NONE && trial.sightsHold();
-    }
-
     private int leastHelp(int man) {
         payings.load(now);
         return payings.leastHelp(man);
@@ -490,7 +480,7 @@ public final class LentPiles {
         }
 
         boolean hasDebt(int man, int k) {
-            return isMan(man) && k >= 0 && k < PILE_MOST && k < height[man];
+            return man >= 0 && man < MEN && k >= 0 && k < PILE_MOST && k < height[man];
         }
 
         int lenderOf(int man, int k) {
@@ -513,10 +503,14 @@ public final class LentPiles {
 
         /** Whether the law asks for debt j of a pile not later than for debt k. */
         private boolean notLater(int man, int j, int k) {
+            if (!hasDebt(man, j) || !hasDebt(man, k)) {
+                return false;
+            }
             if (law == LAW_OLDEST) {
                 return j <= k;
             }
-            int more = law == LAW_DEAREST ? penceOf(man, j) - penceOf(man, k) : 0;
+            int first = man * PILE_MOST;
+            int more = law == LAW_DEAREST ? pence[first + j] - pence[first + k] : 0;
             return more > 0 || more == 0 && j >= k;
         }
 
@@ -862,8 +856,12 @@ public final class LentPiles {
             return false;
         }
 
-        /** Does the parts up to the first that can not be: its number, or NONE; why is noted. */
-        int perform(Valley valley) {
+        /**
+         * Does the parts, from how things stand in one valley, in another one, up to the first that
+         * can not be: its number, or NONE; why is noted.
+         */
+        int perform(Valley from, Valley valley) {
+            valley.copyFrom(from);
             for (int part = 0; part < parts && part < SIGNS_MOST; part++) {
                 why = performPart(valley, part);
                 if (why != WELL) {

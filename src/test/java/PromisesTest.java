@@ -585,6 +585,12 @@ public final class PromisesTest {
         due("24 owed", x.year(0, 1, 2), 20);
         x.money(2, 0);
         due("24 too poor", x.year(0, 1, 0), 0);
+        x.money(2, 15);
+        due("24 earns too little", x.year(0, 1, 0), 0);
+        due("24 earns more on the next day", x.year(0, 2, 0), 1);
+        x.money(2, 16);
+        due("24 earns just enough", x.year(0, 1, 0), 1);
+        x.money(2, 0);
         x.set(1, 9);
         due("24 grown", x.year(0, 1, 2), 58);
         due("24 grown", x.year(0, 2, 2), 76);
