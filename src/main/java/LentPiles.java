@@ -619,9 +619,11 @@ public final class LentPiles {
 
         void passDay() {
             days++;
-            // Rows above a pile's height grow too: nothing reads them before a lending fills them.
-            for (int row = 0; row < DEBTS_MOST; row++) {
-                pence[row] = grown(pence[row], rate);
+            for (int man = 0; man < MEN; man++) {
+                int first = man * PILE_MOST;
+                for (int k = 0; k < PILE_MOST && k < height[man]; k++) {
+                    pence[first + k] = grown(pence[first + k], rate);
+                }
             }
         }
 
@@ -892,10 +894,10 @@ public final class LentPiles {
      * have one order of paying, and all that matters is how many of them each man has paid.
      */
     private static final class Payings {
-        /** A place is how many each man has paid, 0 to 5; one bit is kept for each place. */
-        private static final int PLACES = 6 * 6 * 6 * 6 * 6 * 6;
+        /** A place is how many each of the five others has paid, 0 to 5; a bit is kept for each. */
+        private static final int PLACES = 6 * 6 * 6 * 6 * 6;
         private static final int WORD = 64;
-        private static final int WORDS_MOST = PLACES / WORD;
+        private static final int WORDS_MOST = (PLACES + WORD - 1) / WORD;
 
         private final int[] firstPurse;
         private final int[] purse;
@@ -906,7 +908,7 @@ public final class LentPiles {
         private final int[] paid;
         private final int[] limit;
         private final int[] weight;
-        /** The places that some number of payings leads to, as bits. */
+        /** The places that some number of the others' payings leads to, as bits. */
         private final long[] layer;
         private int words;
 
@@ -1001,28 +1003,32 @@ public final class LentPiles {
             return NONE;
         }
 
-        /** The fewest payings of anybody after which a man has done as many as told. */
+        /**
+         * The fewest payings of anybody after which a man has done as many as told. His own are
+         * needed all of them and take nothing from the others, so he pays whenever he can, and
+         * only the payings of the others are to be chosen.
+         */
         int fewest(int man, int own) {
             payAllThatCan();
             if (!isMan(man) || paid[man] < own) {
                 return NONE;
             }
-            setLimits(man, own);
+            setLimits(man);
             Arrays.fill(layer, 0L);
             mark(0);
-            for (int payings = 1; payings <= DEBTS_MOST; payings++) {
-                if (spread(man)) {
-                    return payings;
+            for (int others = 0; others <= DEBTS_MOST; others++) {
+                if (spread(man, own)) {
+                    return own + others;
                 }
             }
             return NONE;
         }
 
-        /** Nobody needs to pay more than he ever can, and the man of the goal not more than told. */
-        private void setLimits(int goalMan, int own) {
+        /** None of the others needs to pay more than he ever can. */
+        private void setLimits(int goalMan) {
             int places = 1;
             for (int man = 0; man < MEN; man++) {
-                limit[man] = man == goalMan ? own : paid[man];
+                limit[man] = man == goalMan ? 0 : paid[man];
                 weight[man] = places;
                 places *= limit[man] + 1;
             }
@@ -1030,17 +1036,18 @@ public final class LentPiles {
         }
 
         /**
-         * One paying more from each place of the layer: whether the goal is met. A paying leads to
-         * a higher place, so words are taken from the highest down and what is new is not met again.
+         * Whether the goal is met at a place of the layer; else one paying more from each place. It
+         * leads to a higher place, so words are taken from the highest down and what is new is not
+         * met again.
          */
-        private boolean spread(int goalMan) {
+        private boolean spread(int goalMan, int own) {
             for (int word = words - 1; word >= 0; word--) {
                 long bits = layer[word];
                 layer[word] = 0L;
                 for (int n = 0; n < WORD && bits != 0L; n++) {
                     int bit = Long.numberOfTrailingZeros(bits);
                     bits &= bits - 1L;
-                    if (leave(word * WORD + bit, goalMan)) {
+                    if (leave(word * WORD + bit, goalMan, own)) {
                         return true;
                     }
                 }
@@ -1048,13 +1055,16 @@ public final class LentPiles {
             return false;
         }
 
-        private boolean leave(int place, int goalMan) {
+        private boolean leave(int place, int goalMan, int own) {
             standAt(place);
+            for (int k = 0; k < own && canPay(goalMan); k++) {
+                pay(goalMan);
+            }
+            if (paid[goalMan] >= own) {
+                return true;
+            }
             for (int man = 0; man < MEN; man++) {
                 if (paid[man] < limit[man] && canPay(man)) {
-                    if (man == goalMan && paid[man] + 1 == limit[man]) {
-                        return true;
-                    }
                     mark(place + weight[man]);
                 }
             }

@@ -10,6 +10,7 @@ public final class PayingsTest {
         }
         chain();
         fullPiles();
+        allFree();
         Check.end("PayingsTest");
     }
 
@@ -88,7 +89,7 @@ public final class PayingsTest {
         Check.due("chain: whom", x.whom(), 5);
     }
 
-    /** The dearest search: all men's piles are full and all can be paid. */
+    /** All piles are full, and money goes round and round. */
     private static void fullPiles() {
         LentPiles x = new LentPiles();
         for (int man = 0; man < 6; man++) {
@@ -102,7 +103,7 @@ public final class PayingsTest {
         for (int man = 0; man < 6; man++) {
             x.money(man, man == 5 ? 9 : 0);
         }
-        // F pays E, E pays D and so on: five rounds of six, and A is the last but one in each.
+        // F pays E, E pays D and so on: five rounds of six, and A is the last in each.
         Check.due("full: B's oldest", x.soon(1, 0), 29);
         Check.due("full: A's oldest", x.soon(0, 0), 30);
         Check.due("full: F's oldest", x.soon(5, 0), 25);
@@ -114,5 +115,27 @@ public final class PayingsTest {
         }
         x.money(0, 0);
         Check.due("full: A by B's five payings", x.soon(0, 0), 10);
+    }
+
+    /** The dearest search: five men can pay all that they owe in any order, and F needs it all. */
+    private static void allFree() {
+        LentPiles x = new LentPiles();
+        for (int man = 0; man < 6; man++) {
+            x.money(man, 999);
+        }
+        x.set(0, 1);
+        for (int man = 0; man < 5; man++) {
+            String to = ">" + (char) ('A' + man);
+            String from = String.valueOf((char) ('A' + (man + 1) % 5));
+            Check.does(x, (from + to + "1").repeat(4) + "F" + to + "10", 5);
+        }
+        Check.does(x, "A>F1".repeat(4) + "B>F99", 5);
+        int[] missing = {0, 1, 10, 11, 20, 21, 30, 31, 40, 41, 50, 51};
+        int[] soon = {5, 10, 10, 15, 15, 20, 20, 25, 25, 30, 30, -6};
+        for (int i = 0; i < missing.length; i++) {
+            x.money(5, 103 - missing[i]);
+            Check.due("all free: F's last, " + missing[i] + " missing", x.soon(5, 4), soon[i]);
+            Check.due("all free: barred", x.barred(), soon[i] < 0 ? 32 : 0);
+        }
     }
 }
