@@ -25,6 +25,7 @@ public final class FaceTest {
         face();
         insides();
         source(Files.readString(Path.of("src/main/java/LentPiles.java")));
+        readme(Files.readString(Path.of("README.md")));
         Check.end("FaceTest");
     }
 
@@ -103,5 +104,21 @@ public final class FaceTest {
                 begun = 0;
             }
         }
+    }
+
+    /** README.md names each call, and its example answers as it says. */
+    private static void readme(String text) {
+        for (String method : METHODS) {
+            String name = method.substring(method.indexOf(' ') + 1, method.indexOf('(') + 1);
+            Check.holds("README names " + name, text.contains("`" + name));
+        }
+        LentPiles x = new LentPiles();
+        Check.pad(x, "A>B5C>B7.");
+        Check.due("README fault", x.fault(), LentPiles.NONE);
+        Check.due("README judge", x.judge(0), LentPiles.NONE);
+        Check.due("README done", x.done(), 3);
+        Check.due("README due", x.due(1), 1);
+        Check.due("README soon", x.soon(1, 0), 2);
+        Check.due("README pawn", x.pawn(1, 0), 12);
     }
 }
